@@ -1,0 +1,59 @@
+/** Counts the answers that are not the ones due, and prints them. */
+final class Check {
+    interface Call {
+        long answer();
+    }
+
+    interface Deed {
+        void run();
+    }
+
+    private int checks;
+    private int wrong;
+
+    void due(String what, long want, long got) {
+        checks++;
+        if (got != want) {
+            fail(what + " answered " + got + ", due is " + want);
+        }
+    }
+
+    void due(String what, String want, String got) {
+        checks++;
+        if (!want.equals(got)) {
+            fail(what + " answered " + got + ", due is " + want);
+        }
+    }
+
+    void dueThrow(String what, Class<? extends RuntimeException> want, Deed deed) {
+        due(what, want.getSimpleName(), outcome(() -> {
+            deed.run();
+            return 0;
+        }));
+    }
+
+    /** The number that a call answers, or the name of what it throws. */
+    static String outcome(Call call) {
+        try {
+            return Long.toString(call.answer());
+        } catch (RuntimeException e) {
+            return e.getClass().getSimpleName();
+        }
+    }
+
+    boolean allRight() {
+        return wrong == 0;
+    }
+
+    void end(String name) {
+        System.out.println(name + ": " + checks + " answers looked at, " + wrong + " wrong");
+        System.exit(wrong == 0 ? 0 : 1);
+    }
+
+    private void fail(String text) {
+        wrong++;
+        if (wrong <= 50) {
+            System.out.println(text);
+        }
+    }
+}
