@@ -302,7 +302,7 @@ public final class PromiseTest {
             dueThrow("11 a fourth", NoSuchElementException.class, () -> shelf.kept(asked, 0, 0, 0, 3));
         }
         dueThrow("11 place -1", NoSuchElementException.class, () -> shelf.kept(0, 0, 0, 0, -1));
-        dueThrow("11 the greatest place", NoSuchElementException.class, () -> shelf.kept(4, 0, 0, 0, Integer.MAX_VALUE));
+        dueThrow("11 a far place", NoSuchElementException.class, () -> shelf.kept(4, 0, 0, 0, Integer.MAX_VALUE));
         shelf.remove(11);
         due("11 one came up", 8, shelf.kept(0, 0, 0, 0, 2));
         due("11 to the lesser place", 4, shelf.kept(0, 0, 0, 0, 1));
