@@ -10,6 +10,17 @@ final class Check {
 
     private int checks;
     private int wrong;
+    private int sentences;
+    private String sentence = "";
+    private int checksBefore;
+
+    /** What is looked at from now on is what this sentence of the document says. */
+    void sentence(String words) {
+        endSentence();
+        sentences++;
+        sentence = words;
+        checksBefore = checks;
+    }
 
     void due(String what, long want, long got) {
         checks++;
@@ -26,10 +37,7 @@ final class Check {
     }
 
     void dueThrow(String what, Class<? extends RuntimeException> want, Deed deed) {
-        due(what, want.getSimpleName(), outcome(() -> {
-            deed.run();
-            return 0;
-        }));
+        due(what, want.getSimpleName(), outcome(deed));
     }
 
     /** The number that a call answers, or the name of what it throws. */
@@ -41,19 +49,35 @@ final class Check {
         }
     }
 
+    /** As of a call that answers 0. */
+    static String outcome(Deed deed) {
+        return outcome(() -> {
+            deed.run();
+            return 0;
+        });
+    }
+
     boolean allRight() {
         return wrong == 0;
     }
 
     void end(String name) {
-        System.out.println(name + ": " + checks + " answers looked at, " + wrong + " wrong");
+        endSentence();
+        String of = sentences == 0 ? "" : " for " + sentences + " sentences";
+        System.out.println(name + ": " + checks + " answers looked at" + of + ", " + wrong + " wrong");
         System.exit(wrong == 0 ? 0 : 1);
+    }
+
+    private void endSentence() {
+        if (sentences > 0 && checks == checksBefore) {
+            fail("nothing was looked at");
+        }
     }
 
     private void fail(String text) {
         wrong++;
         if (wrong <= 50) {
-            System.out.println(text);
+            System.out.println(sentence.isEmpty() ? text : "'" + sentence + "': " + text);
         }
     }
 }
