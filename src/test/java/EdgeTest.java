@@ -162,6 +162,11 @@ public final class EdgeTest {
             due("of the first, " + i, 0, other.remove(Shelves.top(i)));
         }
         due("none left", 0, other.state(0));
+        PointShelf wide = Shelves.wide();
+        due("of depth 1", 1, wide.remove(Shelves.top(3)));
+        due("of the one that came up", 1, wide.remove(Shelves.top(19)));
+        due("of one alone at depth 1", 1, wide.remove(Shelves.top(18)));
+        due("of one in another cube", 2, wide.remove(Shelves.top(47)));
     }
 
     private static void removeNone() {
@@ -247,8 +252,11 @@ public final class EdgeTest {
         due("count from the least place", 1, shelf.count(14, 14, 14));
         shelf.corner(0, 15, 0);
         shelf.add(1, 0, 15, 0, 0);
+        shelf.add(2, 0, 14, 0, 0);
         shelf.commit();
-        due("a commit leaves it", 1, shelf.count(0, 1, 0));
+        due("a commit leaves it", 2, shelf.count(0, 1, 0));
+        shelf.remove(2);
+        due("and so does a point that goes", 1, shelf.count(0, 1, 0));
     }
 
     private static void cornerAtWrongPlace() {
@@ -612,13 +620,25 @@ public final class EdgeTest {
             due("the colour of " + i, i, shelf.field(Shelves.top(i), 3));
             due("the depth of " + i, Math.min(i / 3, 4), shelf.field(Shelves.top(i), 4));
         }
+        for (int i = 0; i < 48; i++) {
+            shelf.recolour(Shelves.top(i), -1);
+        }
         shelf.corner(15, 15, 15);
         shelf.box(2, 2, 2, 4);
         due("and again", 48, shelf.open());
+        for (int i = 0; i < 48; i++) {
+            due("the colour of " + i + " again", i, shelf.field(Shelves.top(i), 3));
+        }
         due("the listing", 0, shelf.state(4));
         due("the corner", 0, shelf.count(1, 1, 1));
         due("from 0, 0, 0 on", 48, shelf.count(2, 2, 2));
         due("pages in all", 11, shelf.state(3));
+        PointShelf corner = Shelves.aroundLeastPlace();
+        corner.commit();
+        corner.corner(1, 1, 1);
+        due("from 1, 1, 1", 4, corner.count(0, 0, 0));
+        corner.open();
+        due("from 0, 0, 0", 1, corner.count(0, 0, 0));
     }
 
     private static void openOfNothing() {

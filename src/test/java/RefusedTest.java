@@ -31,6 +31,7 @@ public final class RefusedTest {
 
     public static void main(String[] args) {
         probesSeeChanges();
+        shelvesHaveAll();
         onNewShelf();
         onShelfInUse();
         onShelfWithEmptyListing();
@@ -146,7 +147,7 @@ public final class RefusedTest {
         shelf.commit();
         Shelves.spoil(shelf, 27, 5);
         shelf.corner(15, 1, 2);
-        shelf.box(0, 3, 4, 1);
+        shelf.box(0, 15, 15, 4);
         shelf.charge(charge);
         return shelf;
     }
@@ -188,6 +189,18 @@ public final class RefusedTest {
             all.add(new Refusal("count to " + place, ARGUMENT, s -> s.count(x, y, z)));
             all.add(new Refusal("nearest to " + place, ARGUMENT, s -> s.nearest(x, y, z, 1)));
             all.add(new Refusal("kept in " + place, ARGUMENT, s -> s.kept(4, x, y, z, 0)));
+        }
+    }
+
+    /** Of a shelf without a listing, a corner or a commit it could not be seen that a call took them away. */
+    private static void shelvesHaveAll() {
+        CHECK.sentence("the shelves themselves");
+        String cornerOfNew = Probe.CORNER.read(new PointShelf(), knownIds());
+        for (PointShelf shelf : new PointShelf[] {shelfInUse(), fullShelf(), shelfWithTooFewPages(27)}) {
+            CHECK.due("has a listing", 1, shelf.state(4) > 0 ? 1 : 0);
+            CHECK.due("has points committed", 1, shelf.state(5) > 0 ? 1 : 0);
+            String corner = Probe.CORNER.read(shelf, knownIds());
+            CHECK.due("has the corner of a new one", 0, corner.equals(cornerOfNew) ? 1 : 0);
         }
     }
 

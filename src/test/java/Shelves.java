@@ -42,6 +42,16 @@ final class Shelves {
         }
     }
 
+    /** The id 0 at the least place and the ids 1, 2, 3 one off on x, y, z: only from 0, 0, 0 a box to there has one. */
+    static PointShelf aroundLeastPlace() {
+        PointShelf shelf = new PointShelf();
+        shelf.add(0, 0, 0, 0, 0);
+        shelf.add(1, 1, 0, 0, 0);
+        shelf.add(2, 0, 1, 0, 0);
+        shelf.add(3, 0, 0, 1, 0);
+        return shelf;
+    }
+
     /** The points top(0) to top(47), all of colour 0, in the tree that takes the most pages: 38. */
     static PointShelf wide() {
         PointShelf shelf = new PointShelf();

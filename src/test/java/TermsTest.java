@@ -74,6 +74,29 @@ public final class TermsTest {
             due("came back behind " + before, Math.min(before / 3, 4), rising.add(Shelves.top(i), 5, 5, 5, i));
         }
         due("and so to the same nodes", falling.state(1), rising.state(1));
+        for (int gone = 0; gone < 48; gone++) {
+            dueSameWithout(gone);
+        }
+    }
+
+    /** A wide tree that one went from, beside one that it never came to. */
+    private static void dueSameWithout(int gone) {
+        PointShelf left = Shelves.wide();
+        left.remove(Shelves.top(gone));
+        PointShelf never = new PointShelf();
+        for (int i = 47; i >= 0; i--) {
+            int[] place = WideTree.places().get(i);
+            if (i != gone) {
+                never.add(Shelves.top(i), place[0], place[1], place[2], 0);
+            }
+        }
+        due("nodes without " + gone, never.state(1), left.state(1));
+        for (int i = 0; i < 48; i++) {
+            if (i != gone) {
+                int id = Shelves.top(i);
+                due("depth of " + i + " without " + gone, never.field(id, 4), left.field(id, 4));
+            }
+        }
     }
 
     private static void usedFor512Calls() {
@@ -389,11 +412,7 @@ public final class TermsTest {
 
     private static void cornerAtFirst() {
         sentence("the first corner is the CORNER (0, 0, 0 at first)");
-        PointShelf shelf = new PointShelf();
-        shelf.add(0, 0, 0, 0, 0);
-        shelf.add(1, 1, 0, 0, 0);
-        shelf.add(2, 0, 1, 0, 0);
-        shelf.add(3, 0, 0, 1, 0);
+        PointShelf shelf = Shelves.aroundLeastPlace();
         due("the corner alone", 1, shelf.box(0, 0, 0, 4));
         due("which has", 0, shelf.next());
         due("with x", 2, shelf.count(15, 0, 0));
@@ -438,14 +457,20 @@ public final class TermsTest {
         shelf.add(1, 15, 15, 15, 0);
         shelf.add(2, 15, 15, 14, 0);
         shelf.add(3, 8, 0, 0, 0);
-        shelf.add(4, 5, 5, 4, 0);
+        shelf.add(4, 5, 5, 3, 0);
         shelf.add(5, 0, 0, 0, 0);
-        int[] fromLow = {5, 3, 4, 2, 1};
-        int[] fromHigh = {1, 2, 4, 3, 5};
-        for (int k = 1; k <= 5; k++) {
-            due("from the least place, by 0, 64, 66, 646, 675", fromLow[k - 1], shelf.nearest(0, 0, 0, k));
-            due("from the greatest place, by 0, 1, 321, 499, 675", fromHigh[k - 1], shelf.nearest(15, 15, 15, k));
+        shelf.add(6, 6, 6, 0, 0);
+        // By the sum of the differences 3 would come before 4, by the greatest one 6 before 3.
+        int[] fromLow = {5, 4, 3, 6, 2, 1};
+        int[] fromHigh = {1, 2, 4, 6, 3, 5};
+        for (int k = 1; k <= 6; k++) {
+            due("from the least place, by 0, 59, 64, 72, 646, 675", fromLow[k - 1], shelf.nearest(0, 0, 0, k));
+            due("from the greatest, by 0, 1, 344, 387, 499, 675", fromHigh[k - 1], shelf.nearest(15, 15, 15, k));
         }
+        shelf.add(7, 15, 0, 0, 0);
+        shelf.add(8, 11, 10, 0, 0);
+        due("by 221", 8, shelf.nearest(0, 0, 0, 5));
+        due("by 225", 7, shelf.nearest(0, 0, 0, 6));
     }
 
     private static void listingRises() {
@@ -753,6 +778,13 @@ public final class TermsTest {
             due("the corner is 0, 0, 0", 0, shelf.count(1, 1, 1));
             due("nothing to commit", 0, shelf.commit());
         }
+        PointShelf corner = Shelves.aroundLeastPlace();
+        corner.commit();
+        corner.corner(1, 1, 1);
+        corner.recolour(0, 1);
+        corner.charge(0);
+        dueThrow("the power goes", POWER, corner::commit);
+        due("the corner alone", 1, corner.count(0, 0, 0));
     }
 
     private static void noChargeAnyMore() {
