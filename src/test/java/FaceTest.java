@@ -28,6 +28,7 @@ public final class FaceTest {
         Check check = new Check();
         check.due("modifiers of the class", "public final", Modifier.toString(PointShelf.class.getModifiers()));
         check.due("methods", new TreeSet<>(FACE).toString(), visibleMethods().toString());
+        check.due("private methods with a name of the face", "[]", sharedNames().toString());
         for (Field field : PointShelf.class.getDeclaredFields()) {
             check.due("field " + field.getName() + " is private", 1, Modifier.isPrivate(field.getModifiers()) ? 1 : 0);
         }
@@ -54,6 +55,16 @@ public final class FaceTest {
             }
         }
         return seen;
+    }
+
+    private static Set<String> sharedNames() {
+        Set<String> face = new TreeSet<>();
+        Set<String> own = new TreeSet<>();
+        for (Method method : PointShelf.class.getDeclaredMethods()) {
+            (Modifier.isPrivate(method.getModifiers()) ? own : face).add(method.getName());
+        }
+        own.retainAll(face);
+        return own;
     }
 
     private static String signature(Method method) {

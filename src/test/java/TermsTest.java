@@ -1,7 +1,8 @@
 import java.math.BigInteger;
 import java.util.NoSuchElementException;
+import java.util.function.Supplier;
 
-/** The sentences of "What it is" and "Terms" that name a boundary case, each with a test of its own. */
+/** The sentences of "Terms", each with a test of its own. */
 public final class TermsTest {
     private static final Class<IllegalArgumentException> ARGUMENT = IllegalArgumentException.class;
     private static final Class<IllegalStateException> STATE = IllegalStateException.class;
@@ -13,8 +14,6 @@ public final class TermsTest {
     private static final Check CHECK = new Check();
 
     public static void main(String[] args) {
-        treeHangsOnSetAlone();
-        usedFor512Calls();
         anyId();
         noTwoIdsTheSame();
         coordinates();
@@ -30,6 +29,8 @@ public final class TermsTest {
         largerCubesFirst();
         deepestKeepsAll();
         nodeIsThere();
+        depthOfPoint();
+        treeAreNodesThere();
         boxEndsIncluded();
         cornerAtFirst();
         cornerOnAnySide();
@@ -37,8 +38,10 @@ public final class TermsTest {
         listingRises();
         listingEmptyAtFirst();
         listingIsFixed();
+        pagesAre64();
         committedWithoutPointsAtFirst();
         begunPagesCount();
+        cleanHasCommittedNode();
         cleanKeepsSameIds();
         cleanKeepsSameCoordinates();
         cleanKeepsSameColours();
@@ -49,87 +52,12 @@ public final class TermsTest {
         onlyUncleanNodesWritten();
         pagesThatCommittedTreeDoesNotTake();
         rootIsNoneOf64();
+        presentIsCommitted();
         rootIsOneOfCharge();
         pageBehindChargeNotWritten();
         allAsAfterOpen();
         noChargeAnyMore();
         CHECK.end("TermsTest");
-    }
-
-    private static void treeHangsOnSetAlone() {
-        sentence("a tree of cubes that hangs on the set of the points alone, in whatever order they came and went");
-        PointShelf falling = Shelves.column(48, 5, 5, 5);
-        PointShelf rising = new PointShelf();
-        for (int i = 47; i >= 0; i--) {
-            due("the greatest rank so far", 0, rising.add(Shelves.top(i), 5, 5, 5, i));
-        }
-        for (int i = 0; i < 48; i++) {
-            due("depth of " + i, falling.field(Shelves.top(i), 4), rising.field(Shelves.top(i), 4));
-        }
-        for (int i = 0; i < 48; i += 2) {
-            rising.remove(Shelves.top(i));
-        }
-        for (int i = 46; i >= 0; i -= 2) {
-            int before = i / 2;
-            due("came back behind " + before, Math.min(before / 3, 4), rising.add(Shelves.top(i), 5, 5, 5, i));
-        }
-        due("and so to the same nodes", falling.state(1), rising.state(1));
-        for (int gone = 0; gone < 48; gone++) {
-            dueSameWithout(gone);
-        }
-    }
-
-    /** A wide tree that one went from, beside one that it never came to. */
-    private static void dueSameWithout(int gone) {
-        PointShelf left = Shelves.wide();
-        left.remove(Shelves.top(gone));
-        PointShelf never = new PointShelf();
-        for (int i = 47; i >= 0; i--) {
-            int[] place = WideTree.places().get(i);
-            if (i != gone) {
-                never.add(Shelves.top(i), place[0], place[1], place[2], 0);
-            }
-        }
-        due("nodes without " + gone, never.state(1), left.state(1));
-        for (int i = 0; i < 48; i++) {
-            if (i != gone) {
-                int id = Shelves.top(i);
-                due("depth of " + i + " without " + gone, never.field(id, 4), left.field(id, 4));
-            }
-        }
-    }
-
-    private static void usedFor512Calls() {
-        sentence("An object is used for at most 512 calls after it has been made");
-        PointShelf commits = new PointShelf();
-        commits.add(1, 2, 3, 4, 0);
-        for (int n = 1; n <= 255; n++) {
-            commits.recolour(1, n);
-            due("commit as call " + (2 * n + 1), 2, commits.commit());
-        }
-        due("the 512th call", 510, commits.state(3));
-        PointShelf moves = new PointShelf();
-        for (int n = 0; n < 255; n++) {
-            due("add as call " + (2 * n + 1), 0, moves.add(n, 1, 1, 1, 1));
-            due("remove as call " + (2 * n + 2), 0, moves.remove(n));
-        }
-        due("the 511th call", 0, moves.add(-1, 15, 15, 15, 0));
-        dueThrow("the 512th call", STATE, () -> moves.add(-1, 15, 15, 15, 0));
-        PointShelf boxes = Shelves.column(48, 7, 7, 7);
-        for (int n = 49; n < 511; n += 2) {
-            due("box as call " + n, 48, boxes.box(15, 15, 15, 4));
-            due("next as call " + (n + 1), leastTop(), boxes.next());
-        }
-        due("box as call 511", 48, boxes.box(7, 7, 7, 4));
-        due("the 512th call", leastTop(), boxes.next());
-    }
-
-    private static int leastTop() {
-        int least = MOST;
-        for (int i = 0; i < 48; i++) {
-            least = Math.min(least, Shelves.top(i));
-        }
-        return least;
     }
 
     private static void anyId() {
@@ -394,6 +322,63 @@ public final class TermsTest {
         due("no node any more", 0, shelf.state(1));
     }
 
+    private static void depthOfPoint() {
+        sentence("The DEPTH of a point is that of the cube whose node keeps it.");
+        PointShelf wide = Shelves.wide();
+        for (int i = 0; i < 48; i++) {
+            int[] place = WideTree.places().get(i);
+            dueKeptAtItsDepthAlone(wide, i, place[0], place[1], place[2]);
+        }
+        PointShelf column = Shelves.column(15, 6, 9, 13);
+        for (int i = 0; i < 15; i++) {
+            dueKeptAtItsDepthAlone(column, i, 6, 9, 13);
+        }
+    }
+
+    /** On shelves whose nodes keep three points at most. */
+    private static void dueKeptAtItsDepthAlone(PointShelf shelf, int i, int x, int y, int z) {
+        int depth = shelf.field(Shelves.top(i), 4);
+        for (int d = Math.max(0, depth - 1); d <= Math.min(4, depth + 1); d++) {
+            int shift = 4 - d;
+            boolean found = false;
+            for (int place = 0; place < 3 && !found; place++) {
+                int at = place;
+                int cubeDepth = d;
+                found = Check.outcome(() -> shelf.kept(cubeDepth, x >> shift, y >> shift, z >> shift, at))
+                    .equals("" + Shelves.top(i));
+            }
+            due(i + " is kept at depth " + d, d == depth ? 1 : 0, found ? 1 : 0);
+        }
+    }
+
+    private static void treeAreNodesThere() {
+        sentence("The TREE are the nodes that are there.");
+        due("of a wide tree", 38, cubesThatKeep(Shelves::wide));
+        due("as it says itself", 38, Shelves.wide().state(1));
+        due("of a column", 5, cubesThatKeep(() -> Shelves.column(48, 15, 0, 8)));
+        due("as it says itself", 5, Shelves.column(48, 15, 0, 8).state(1));
+        due("of an empty shelf", 0, cubesThatKeep(PointShelf::new));
+    }
+
+    /** Asks for every cube there can be; an object answers 512 calls, so each slice of a depth gets a shelf anew. */
+    private static int cubesThatKeep(Supplier<PointShelf> shelves) {
+        int found = 0;
+        for (int depth = 0; depth <= 4; depth++) {
+            int d = depth;
+            for (int cx = 0; cx < 1 << depth; cx++) {
+                PointShelf shelf = shelves.get();
+                int x = cx;
+                for (int at = 0; at < 1 << 2 * depth; at++) {
+                    int y = at >> depth;
+                    int z = at & (1 << depth) - 1;
+                    String kept = Check.outcome(() -> shelf.kept(d, x, y, z, 0));
+                    found += kept.equals("NoSuchElementException") ? 0 : 1;
+                }
+            }
+        }
+        return found;
+    }
+
     private static void boxEndsIncluded() {
         sentence("A BOX are the places from one corner to another one, on all three axes, both included");
         PointShelf shelf = framedBox();
@@ -537,6 +522,25 @@ public final class TermsTest {
         dueThrow("no more", NONE, shelf::next);
     }
 
+    private static void pagesAre64() {
+        sentence("There are 64 PAGES.");
+        PointShelf shelf = new PointShelf();
+        due("all free at first", 64, shelf.state(2));
+        Shelves.addColumn(shelf, 48, 0, 0, 0);
+        due("all free before the commit", 64, shelf.state(2));
+        shelf.commit();
+        due("ten taken", 64 - 10, shelf.state(2));
+        PointShelf wide = Shelves.wide();
+        wide.commit();
+        due("38 taken", 64 - 38, wide.state(2));
+        for (int i = 0; i < 48; i++) {
+            wide.remove(Shelves.top(i));
+        }
+        due("taken until the next commit", 64 - 38, wide.state(2));
+        wide.commit();
+        due("all free again", 64, wide.state(2));
+    }
+
     private static void committedWithoutPointsAtFirst() {
         sentence("that of the points at the latest commit (without points at first)");
         PointShelf shelf = Shelves.column(5, 0, 0, 0);
@@ -562,6 +566,25 @@ public final class TermsTest {
             due("commit of " + points, points == 0 ? 0 : upper + lowest + 1, shelf.commit());
             due("pages left by " + points, 64 - upper - lowest, shelf.state(2));
         }
+    }
+
+    private static void cleanHasCommittedNode() {
+        sentence("the committed tree has a node for its cube");
+        PointShelf shelf = Shelves.column(3, 0, 0, 0);
+        due("one node and the root", 2, shelf.commit());
+        shelf.add(Shelves.top(3), 0, 0, 0, 0);
+        due("a node came at depth 1", 3, shelf.commit());
+        shelf.add(Shelves.top(4), 8, 8, 8, 0);
+        due("a node came beside it, which stays clean", 3, shelf.commit());
+        shelf.remove(Shelves.top(4));
+        shelf.commit();
+        shelf.add(Shelves.top(4), 8, 8, 8, 0);
+        due("a node that an earlier commit had counts as new", 3, shelf.commit());
+        PointShelf moved = Shelves.column(7, 0, 0, 0);
+        moved.commit();
+        moved.remove(Shelves.top(6));
+        moved.add(Shelves.top(6), 4, 0, 0, 6);
+        due("the same id in another cube", 4, moved.commit());
     }
 
     private static void cleanKeepsSameIds() {
@@ -712,6 +735,30 @@ public final class TermsTest {
         Shelves.spoil(wide, 26, 1);
         due("the last 26 and the root", 27, wide.commit());
         due("38 are taken still", 26, wide.state(2));
+    }
+
+    private static void presentIsCommitted() {
+        sentence("Then the present tree is the committed one.");
+        PointShelf shelf = Shelves.column(13, 1, 1, 1);
+        shelf.commit();
+        shelf.remove(Shelves.top(0));
+        shelf.recolour(Shelves.top(1), -1);
+        shelf.remove(Shelves.top(2));
+        shelf.add(Shelves.top(2), 14, 14, 14, 2);
+        shelf.add(Shelves.top(20), 3, 3, 3, 20);
+        shelf.add(Shelves.top(21), 3, 3, 3, 21);
+        shelf.commit();
+        due("so many committed", 14, shelf.state(5));
+        due("the pages of its five nodes", 59, shelf.state(2));
+        due("nothing to commit", 0, shelf.commit());
+        due("so many after open", 14, shelf.open());
+        dueThrow("the one that went", NONE, () -> shelf.field(Shelves.top(0), 0));
+        due("the colour", -1, shelf.field(Shelves.top(1), 3));
+        due("the place", 14, shelf.field(Shelves.top(2), 0));
+        due("the one that came", 20, shelf.field(Shelves.top(20), 3));
+        due("the one that came up to depth 0", 0, shelf.field(Shelves.top(3), 4));
+        due("nodes", 5, shelf.state(1));
+        due("still nothing to commit", 0, shelf.commit());
     }
 
     private static void rootIsOneOfCharge() {
